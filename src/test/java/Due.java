@@ -1,0 +1,37 @@
+/** Counts the answers that are not as due; a test ends with exit code 1 if there was one. */
+final class Due {
+    private static final int MOST_PRINTED = 20;
+
+    private final String test;
+    private int asked = 0;
+    private int wrong = 0;
+
+    Due(String test) {
+        this.test = test;
+    }
+
+    void is(String call, int got, int want) {
+        asked++;
+        if (got != want) {
+            wrong++;
+            if (wrong <= MOST_PRINTED) {
+                System.out.println(test + ": " + call + " answered " + got + ", due is " + want);
+            }
+        }
+    }
+
+    void is(String call, boolean got, boolean want) {
+        is(call, got ? 1 : 0, want ? 1 : 0);
+    }
+
+    boolean hasWrong() {
+        return wrong > 0;
+    }
+
+    void end() {
+        System.out.println(test + ": " + asked + " answers, " + wrong + " not as due");
+        if (wrong > 0) {
+            System.exit(1);
+        }
+    }
+}
