@@ -18,6 +18,8 @@ public final class ExecutionTest {
         valuesMayComeFirst();
         valuesMayComeBeforeAdmission();
         valuesAreThoseOfTheLook();
+        valuesReadAreNotReadAgain(0, 1);
+        valuesReadAreNotReadAgain(1, 0);
         eachKindWorks();
         wrongQueries();
         due.end();
@@ -290,6 +292,20 @@ public final class ExecutionTest {
         x.look(0, 1, 0);
         x.deliver(0);
         due.is("value(0, 1)", x.value(0, 1), 100);
+    }
+
+    private static void valuesReadAreNotReadAgain(int a, int b) {
+        SequencedBatches x = new SequencedBatches(3);
+        x.submit(0, Steps.SUM, a, b, 2);
+        x.submit(0, Steps.SET, 1, 0, 900);
+        Steps.closeAndDecide(x, 0);
+        Steps.admitInAll(x, 0, 3, 2);
+        x.look(0, 1, 0);
+        due.is("key 1 is read and let go", x.look(0, 1, 0), 1);
+        due.is("key 0 is read after key 1 has changed", x.look(0, 0, 0), 0);
+        x.look(0, 2, 0);
+        Steps.deliverAll(x);
+        due.is("value(0, 2)", x.value(0, 2), 200);
     }
 
     private static void eachKindWorks() {

@@ -7,6 +7,7 @@ public final class MessagesTest {
         anyMessageMayArrive();
         storeOnANodeThatIsDown();
         storeOfAnOldIncarnation();
+        restartIsPromisedByEveryNodeThatIsUp();
         storePromisesItsIncarnation();
         acksOfOneNodeCountOnce();
         acksOfAnOldIncarnation();
@@ -17,6 +18,7 @@ public final class MessagesTest {
         arrivalsAreNeverRefused();
         logGoesUpToTheFirstUnknownSlot();
         logLeavesEmptySlotsOut();
+        logOfAllFortySlots();
         due.end();
     }
 
@@ -80,6 +82,20 @@ public final class MessagesTest {
         x.deliver(4);
         x.deliver(1);
         due.is("node 0 stores anew", x.stored(0, 0, 0), 5);
+    }
+
+    private static void restartIsPromisedByEveryNodeThatIsUp() {
+        SequencedBatches x = new SequencedBatches(2);
+        x.close(0);
+        x.close(1);
+        x.crash(Steps.SEQUENCER);
+        x.restart(Steps.SEQUENCER);
+        Steps.deliver(x, 6);
+        for (int l = 0; l < 3; l++) {
+            due.is("old STORE on node " + l, x.stored(l, 0, 0), 0);
+            due.is("STORE of the other sequencer on node " + l, x.stored(l, 1, 0), 2);
+        }
+        due.is("messages()", x.messages(), 6);
     }
 
     private static void storePromisesItsIncarnation() {
@@ -247,5 +263,21 @@ public final class MessagesTest {
         due.is("status(0)", x.status(0), 3);
         due.is("logged(0, 0)", x.logged(0, 0), 1);
         due.is("logged(0, 1)", x.logged(0, 1), -1);
+    }
+
+    private static void logOfAllFortySlots() {
+        SequencedBatches x = new SequencedBatches(1);
+        for (int e = 0; e < 20; e++) {
+            x.submit(1, Steps.ADD, 0, 0, e);
+            x.close(0);
+            x.close(1);
+            Steps.deliver(x, 16);
+        }
+        due.is("messages()", x.messages(), 0);
+        due.is("logged(0, 19)", x.logged(0, 19), 19);
+        due.is("logged(0, 20)", x.logged(0, 20), -1);
+        due.is("resend(1, 19)", x.resend(1, 19), 2);
+        due.is("deliver(0)", x.deliver(0), true);
+        due.is("a last CLOSED that comes again", x.logged(0, 20), -1);
     }
 }

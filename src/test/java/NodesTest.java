@@ -14,6 +14,8 @@ public final class NodesTest {
         sequencerSendsInOrderOfEpochs();
         batchIsEmptyAfterARestart();
         replicaLosesItsValuesUnderWay();
+        messagesThatStayKeepTheirIncarnation();
+        replicaBeginsFromItsFirstCheckpoint();
         replicaBeginsFromItsCheckpoint();
         valuesReceivedAreGone();
         due.end();
@@ -194,6 +196,39 @@ public final class NodesTest {
         due.is("VALUES of the other replica stay", x.message(2), 4100001);
         due.is("STORE stays", x.message(3), 1100000);
         due.is("STORE stays", x.message(5), 1100020);
+    }
+
+    private static void messagesThatStayKeepTheirIncarnation() {
+        SequencedBatches x = new SequencedBatches(2);
+        x.submit(0, Steps.MOVE, 0, 1, 1);
+        Steps.closeAndDecide(x, 0);
+        x.crash(4);
+        x.restart(4);
+        x.admit(0, 0);
+        x.close(0);
+        x.look(0, 0, 0);
+        x.close(1);
+        x.crash(Steps.REPLICA);
+        Steps.deliver(x, 6);
+        due.is("stored(0, 0, 1)", x.stored(0, 0, 1), 2);
+        due.is("stored(0, 1, 0)", x.stored(0, 1, 0), 4);
+        due.is("stored(2, 1, 0)", x.stored(2, 1, 0), 4);
+    }
+
+    private static void replicaBeginsFromItsFirstCheckpoint() {
+        SequencedBatches x = new SequencedBatches(1);
+        x.submit(0, Steps.SET, 0, 0, 7);
+        Steps.closeAndDecide(x, 0);
+        x.admit(1, 0);
+        x.look(1, 0, 0);
+        due.is("value(1, 0)", x.value(1, 0), 7);
+        x.crash(Steps.REPLICA + 1);
+        x.restart(Steps.REPLICA + 1);
+        for (int k = 0; k < 12; k++) {
+            due.is("value(1, " + k + ")", x.value(1, k), 100);
+        }
+        due.is("admitted(1, 0)", x.admitted(1, 0), 0);
+        due.is("admit(1, 0)", x.admit(1, 0), 0);
     }
 
     private static void replicaBeginsFromItsCheckpoint() {

@@ -78,6 +78,9 @@ public final class SlotTest {
         }
         due.is("messages()", x.messages(), 0);
         due.is("the 21st", x.close(0), -1);
+        due.is("resend(0, 20)", x.resend(0, 20), -1);
+        due.is("stored(0, 0, 20)", x.stored(0, 0, 20), -1);
+        due.is("stored(0, 0, 19)", x.stored(0, 0, 19), 2);
         due.is("the 20th slot's code", x.resend(0, 19), 2);
         due.is("message(0)", x.message(0), 3019000);
         due.is("the other sequencer", x.close(1), 0);
