@@ -437,7 +437,7 @@ public final class SequencedBatches {
             // A b that is not looked at may be no key at all.
             this.b = looksAtB(kind) ? b : a;
             this.n = n;
-            this.readKeys = kind == SET ? 0 : 1 << this.a | 1 << this.b;
+            this.readKeys = kind == SET ? 0 : (1 << this.a) | (1 << this.b);
             this.writtenKeys = keysWritten(kind, this.a, this.b, n);
         }
 
@@ -468,7 +468,7 @@ public final class SequencedBatches {
                 case TOP:
                     return 1 << b;
                 default:
-                    return 1 << a | 1 << b;
+                    return (1 << a) | (1 << b);
             }
         }
 
@@ -620,7 +620,8 @@ public final class SequencedBatches {
         private int checkpointLength = 0;
         private final int[] values = new int[KEYS];
         private final Partition[] partitions;
-        // By transaction, as looked at: locks are gone and values may change before VALUES arrive.
+        // By transaction, as looked at: a partition that only reads lets go of its locks,
+        // so its values may change before the VALUES arrive.
         private final int[] valuesOfA = new int[MOST_TRANSACTIONS];
         private final int[] valuesOfB = new int[MOST_TRANSACTIONS];
 
@@ -709,10 +710,10 @@ public final class SequencedBatches {
         }
 
         private void keepReadValues(Transaction transaction, int keys) {
-            if (transaction.reads(keys & 1 << transaction.a)) {
+            if (transaction.reads(keys & (1 << transaction.a))) {
                 valuesOfA[transaction.number] = values[transaction.a];
             }
-            if (transaction.reads(keys & 1 << transaction.b)) {
+            if (transaction.reads(keys & (1 << transaction.b))) {
                 valuesOfB[transaction.number] = values[transaction.b];
             }
         }
@@ -735,7 +736,7 @@ public final class SequencedBatches {
             int valueOfA = valuesOfA[transaction.number];
             int valueOfB = valuesOfB[transaction.number];
             for (int k = 0; k < KEYS; k++) {
-                if (transaction.writes(keys & 1 << k)) {
+                if (transaction.writes(keys & (1 << k))) {
                     values[k] = transaction.newValue(k, valueOfA, valueOfB);
                 }
             }
@@ -753,8 +754,10 @@ public final class SequencedBatches {
 
         Partition(int number, int partitionCount) {
             int own = 0;
-            for (int k = number; k < KEYS; k += partitionCount) {
-                own |= 1 << k;
+            for (int k = 0; k < KEYS; k++) {
+                if (k % partitionCount == number) {
+                    own |= 1 << k;
+                }
             }
             keys = own;
         }

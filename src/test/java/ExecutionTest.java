@@ -6,6 +6,7 @@ public final class ExecutionTest {
         admitGoesAlongTheLog();
         admitIsRefused();
         tenUnfinishedAreTheMost();
+        tenUnfinishedStopEveryAdmission();
         whoTakesNoPartHasFinished();
         sharedLocksGoTogether();
         exclusiveLocksWait();
@@ -76,6 +77,23 @@ public final class ExecutionTest {
         x.look(0, 0, 0);
         due.is("room for one", x.admit(0, 0), 9);
         due.is("and not for two", x.admit(0, 0), -1);
+    }
+
+    private static void tenUnfinishedStopEveryAdmission() {
+        SequencedBatches x = new SequencedBatches(2);
+        for (int i = 0; i < 6; i++) {
+            x.submit(0, Steps.ADD, 0, 0, 1);
+            x.submit(1, Steps.ADD, i < 4 ? 2 : 1, 0, 1);
+        }
+        x.close(0);
+        Steps.closeAndDecide(x, 1);
+        Steps.admit(x, 1, 0, 10);
+        due.is("the next takes no part here", x.logged(1, 10), 9);
+        due.is("it is refused all the same", x.admit(1, 0), -1);
+        x.look(1, 0, 0);
+        due.is("nine are not finished", x.admit(1, 0), 9);
+        due.is("nor are there more", x.admit(1, 0), 11);
+        due.is("finished(1, 0)", x.finished(1, 0), 3);
     }
 
     private static void whoTakesNoPartHasFinished() {

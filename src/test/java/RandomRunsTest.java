@@ -2,7 +2,7 @@ import java.util.Random;
 
 /** Every promise: runs of 512 calls, the same ones each time, whose answers must be those of Model. */
 public final class RandomRunsTest {
-    private static final int RUNS = 1500;
+    private static final int RUNS = 4000;
     private static final int CALLS = 512;
     private static final int LAST_LOOK = 90;
 
@@ -20,6 +20,7 @@ public final class RandomRunsTest {
     private final int executions;
     private final boolean inOrder;
     private final int keys;
+    private int submitted = 0;
 
     private RandomRunsTest(Due due, int run) {
         this.due = due;
@@ -47,12 +48,31 @@ public final class RandomRunsTest {
     }
 
     private void go() {
-        for (int i = 0; i < CALLS - LAST_LOOK && !due.hasWrong(); i++) {
+        int calls = 0;
+        for (int rounds = random.nextInt(4); rounds > 0; rounds--) {
+            calls += decideTwoSlots();
+        }
+        for (; calls < CALLS - LAST_LOOK && !due.hasWrong(); calls++) {
             step();
         }
         for (int i = 0; i < LAST_LOOK && !due.hasWrong(); i++) {
             query();
         }
+    }
+
+    /** Without it most runs would end with a log too short for transactions to meet. */
+    private int decideTwoSlots() {
+        int submits = 1 + random.nextInt(12);
+        for (int i = 0; i < submits; i++) {
+            submit(i % 2);
+        }
+        for (int s = 0; s < 2; s++) {
+            is("close(" + s + ")", x.close(s), model.close(s));
+        }
+        for (int i = 0; i < 16; i++) {
+            is("deliver(0)", x.deliver(0), model.deliver(0));
+        }
+        return submits + 18;
     }
 
     private void step() {
@@ -91,14 +111,20 @@ public final class RandomRunsTest {
         int s = near(2);
         if (random.nextInt(5) < 2) {
             is("close(" + s + ")", x.close(s), model.close(s));
-            return;
+        } else {
+            submit(s);
         }
+    }
+
+    private void submit(int s) {
         int kind = near(6);
         int a = near(keys);
         int b = near(keys);
         int n = number(kind);
         String call = "submit(" + s + ", " + kind + ", " + a + ", " + b + ", " + n + ")";
-        is(call, x.submit(s, kind, a, b, n), model.submit(s, kind, a, b, n));
+        int t = model.submit(s, kind, a, b, n);
+        is(call, x.submit(s, kind, a, b, n), t);
+        submitted = Math.max(submitted, t + 1);
     }
 
     private int number(int kind) {
@@ -108,6 +134,7 @@ public final class RandomRunsTest {
         switch (random.nextInt(8)) {
             case 0: return random.nextInt();
             case 1: return -random.nextInt(50);
+            case 2: return 100;
             default: return random.nextInt(150);
         }
     }
@@ -130,7 +157,7 @@ public final class RandomRunsTest {
         int r = near(2);
         int p = near(partitions);
         int k = near(12);
-        int t = near(100);
+        int t = near(submitted + 1);
         int i = messageNumber();
         switch (random.nextInt(10)) {
             case 0: is("messages()", x.messages(), model.messages()); break;
