@@ -13,7 +13,7 @@ public final class CheckpointTest {
     }
 
     private static void checkpointOfNoSuchReplica() {
-        SequencedBatches x = new SequencedBatches(2);
+        Counted x = new Counted(2);
         due.is("checkpoint(-1)", x.checkpoint(-1), -1);
         due.is("checkpoint(2)", x.checkpoint(2), -1);
         due.is("checkpoint(MAX)", x.checkpoint(Integer.MAX_VALUE), -1);
@@ -24,7 +24,7 @@ public final class CheckpointTest {
     }
 
     private static void partitionsMustHaveAdmittedAlike() {
-        SequencedBatches x = new SequencedBatches(3);
+        Counted x = new Counted(3);
         x.submit(0, Steps.SET, 0, 0, 1);
         x.submit(0, Steps.SET, 1, 0, 2);
         Steps.closeAndDecide(x, 0);
@@ -40,7 +40,7 @@ public final class CheckpointTest {
     }
 
     private static void allMustBeFinishedEverywhere() {
-        SequencedBatches x = new SequencedBatches(2);
+        Counted x = new Counted(2);
         x.submit(0, Steps.MOVE, 0, 1, 5);
         Steps.closeAndDecide(x, 0);
         Steps.admitInAll(x, 0, 2, 1);
@@ -56,7 +56,7 @@ public final class CheckpointTest {
     }
 
     private static void refusedCheckpointKeepsTheOldOne() {
-        SequencedBatches x = new SequencedBatches(1);
+        Counted x = new Counted(1);
         x.submit(0, Steps.ADD, 0, 0, 1);
         x.submit(0, Steps.ADD, 0, 0, 2);
         x.submit(0, Steps.ADD, 1, 0, 4);
@@ -75,7 +75,7 @@ public final class CheckpointTest {
     }
 
     private static void checkpointStaysWhenValuesGoOn() {
-        SequencedBatches x = new SequencedBatches(1);
+        Counted x = new Counted(1);
         x.submit(0, Steps.ADD, 0, 0, 1);
         x.submit(0, Steps.ADD, 0, 0, 2);
         Steps.closeAndDecide(x, 0);
@@ -100,7 +100,7 @@ public final class CheckpointTest {
     }
 
     private static void replicasHaveTheirOwn() {
-        SequencedBatches x = new SequencedBatches(1);
+        Counted x = new Counted(1);
         x.submit(0, Steps.SET, 4, 0, 1);
         Steps.closeAndDecide(x, 0);
         x.admit(1, 0);

@@ -1,3 +1,5 @@
+import java.util.List;
+
 /** Counts the answers that are not as due; a test ends with exit code 1 if there was one. */
 final class Due {
     private static final int MOST_PRINTED = 20;
@@ -13,15 +15,25 @@ final class Due {
     void is(String call, int got, int want) {
         asked++;
         if (got != want) {
-            wrong++;
-            if (wrong <= MOST_PRINTED) {
-                System.out.println(test + ": " + call + " answered " + got + ", due is " + want);
-            }
+            wrong(call + " answered " + got + ", due is " + want);
         }
     }
 
     void is(String call, boolean got, boolean want) {
         is(call, got ? 1 : 0, want ? 1 : 0);
+    }
+
+    /** Compares answers told as texts, and prints the first that differs. */
+    void same(String after, List<String> got, List<String> want) {
+        asked++;
+        if (got.equals(want)) {
+            return;
+        }
+        int i = 0;
+        while (i < got.size() && i < want.size() && got.get(i).equals(want.get(i))) {
+            i++;
+        }
+        wrong(after + ": " + at(got, i) + ", due is " + at(want, i));
     }
 
     boolean hasWrong() {
@@ -33,5 +45,16 @@ final class Due {
         if (wrong > 0) {
             System.exit(1);
         }
+    }
+
+    private void wrong(String what) {
+        wrong++;
+        if (wrong <= MOST_PRINTED) {
+            System.out.println(test + ": " + what);
+        }
+    }
+
+    private static String at(List<String> answers, int i) {
+        return i < answers.size() ? answers.get(i) : "nothing more";
     }
 }

@@ -27,7 +27,7 @@ public final class ExecutionTest {
     }
 
     private static void admitGoesAlongTheLog() {
-        SequencedBatches x = new SequencedBatches(2);
+        Counted x = new Counted(2);
         x.submit(1, Steps.SET, 0, 0, 1);
         x.submit(0, Steps.SET, 0, 0, 2);
         Steps.closeAndDecide(x, 0);
@@ -42,7 +42,7 @@ public final class ExecutionTest {
     }
 
     private static void admitIsRefused() {
-        SequencedBatches x = new SequencedBatches(2);
+        Counted x = new Counted(2);
         x.submit(0, Steps.SET, 0, 0, 2);
         Steps.closeAndDecide(x, 0);
         due.is("admit(-1, 0)", x.admit(-1, 0), -1);
@@ -57,7 +57,7 @@ public final class ExecutionTest {
     }
 
     private static void tenUnfinishedAreTheMost() {
-        SequencedBatches x = new SequencedBatches(2);
+        Counted x = new Counted(2);
         for (int i = 0; i < 6; i++) {
             x.submit(0, Steps.ADD, 0, 0, 1);
             x.submit(1, Steps.ADD, 2, 0, 1);
@@ -80,7 +80,7 @@ public final class ExecutionTest {
     }
 
     private static void tenUnfinishedStopEveryAdmission() {
-        SequencedBatches x = new SequencedBatches(2);
+        Counted x = new Counted(2);
         for (int i = 0; i < 6; i++) {
             x.submit(0, Steps.ADD, 0, 0, 1);
             x.submit(1, Steps.ADD, i < 4 ? 2 : 1, 0, 1);
@@ -97,7 +97,7 @@ public final class ExecutionTest {
     }
 
     private static void whoTakesNoPartHasFinished() {
-        SequencedBatches x = new SequencedBatches(3);
+        Counted x = new Counted(3);
         x.submit(0, Steps.TOP, 0, 1, 0);
         x.submit(0, Steps.SET, 1, 2, 0);
         Steps.closeAndDecide(x, 0);
@@ -114,7 +114,7 @@ public final class ExecutionTest {
     }
 
     private static void sharedLocksGoTogether() {
-        SequencedBatches x = new SequencedBatches(1);
+        Counted x = new Counted(1);
         x.submit(0, Steps.TOP, 0, 1, 0);
         x.submit(0, Steps.SUM, 0, 0, 2);
         x.submit(0, Steps.ADD, 0, 0, 1);
@@ -135,7 +135,7 @@ public final class ExecutionTest {
     }
 
     private static void exclusiveLocksWait() {
-        SequencedBatches x = new SequencedBatches(2);
+        Counted x = new Counted(2);
         x.submit(0, Steps.MOVE, 0, 1, 10);
         x.submit(0, Steps.TOP, 1, 3, 0);
         x.submit(0, Steps.SET, 5, 0, 0);
@@ -161,7 +161,7 @@ public final class ExecutionTest {
     }
 
     private static void locksAreOfOnePartition() {
-        SequencedBatches x = new SequencedBatches(2);
+        Counted x = new Counted(2);
         x.submit(0, Steps.SWAP, 0, 1, 0);
         x.submit(0, Steps.SWAP, 1, 2, 0);
         Steps.closeAndDecide(x, 0);
@@ -176,7 +176,7 @@ public final class ExecutionTest {
     }
 
     private static void lookTakesTheReadyOnes() {
-        SequencedBatches x = new SequencedBatches(1);
+        Counted x = new Counted(1);
         x.submit(0, Steps.ADD, 0, 0, 1);
         x.submit(0, Steps.ADD, 0, 0, 2);
         x.submit(0, Steps.ADD, 1, 0, 3);
@@ -193,7 +193,7 @@ public final class ExecutionTest {
     }
 
     private static void lookIsRefused() {
-        SequencedBatches x = new SequencedBatches(2);
+        Counted x = new Counted(2);
         x.submit(0, Steps.ADD, 0, 0, 1);
         Steps.closeAndDecide(x, 0);
         x.admit(0, 0);
@@ -212,7 +212,7 @@ public final class ExecutionTest {
     }
 
     private static void lookIsRefusedWhenCrowded() {
-        SequencedBatches x = new SequencedBatches(2);
+        Counted x = new Counted(2);
         x.submit(0, Steps.ADD, 0, 0, 1);
         x.submit(0, Steps.ADD, 2, 0, 1);
         Steps.closeAndDecide(x, 0);
@@ -227,7 +227,7 @@ public final class ExecutionTest {
     }
 
     private static void lookSendsToActivePartitions() {
-        SequencedBatches x = new SequencedBatches(4);
+        Counted x = new Counted(4);
         x.submit(0, Steps.SUM, 2, 1, 3);
         x.submit(0, Steps.SWAP, 4, 7, 0);
         x.submit(1, Steps.TOP, 5, 8, 0);
@@ -260,7 +260,7 @@ public final class ExecutionTest {
     }
 
     private static void lookWithNothingReadSendsNothing() {
-        SequencedBatches x = new SequencedBatches(4);
+        Counted x = new Counted(4);
         x.submit(0, Steps.SET, 6, 0, -3);
         Steps.closeAndDecide(x, 0);
         x.admit(0, 2);
@@ -271,7 +271,7 @@ public final class ExecutionTest {
     }
 
     private static void valuesMayComeFirst() {
-        SequencedBatches x = new SequencedBatches(2);
+        Counted x = new Counted(2);
         x.submit(0, Steps.TOP, 0, 1, 0);
         Steps.closeAndDecide(x, 0);
         Steps.admitInAll(x, 0, 2, 1);
@@ -284,7 +284,7 @@ public final class ExecutionTest {
     }
 
     private static void valuesMayComeBeforeAdmission() {
-        SequencedBatches x = new SequencedBatches(2);
+        Counted x = new Counted(2);
         x.submit(0, Steps.MOVE, 0, 1, 40);
         Steps.closeAndDecide(x, 0);
         x.admit(0, 0);
@@ -299,7 +299,7 @@ public final class ExecutionTest {
     }
 
     private static void valuesAreThoseOfTheLook() {
-        SequencedBatches x = new SequencedBatches(2);
+        Counted x = new Counted(2);
         x.submit(0, Steps.TOP, 0, 1, 0);
         x.submit(0, Steps.SET, 0, 0, 900);
         Steps.closeAndDecide(x, 0);
@@ -313,7 +313,7 @@ public final class ExecutionTest {
     }
 
     private static void valuesReadAreNotReadAgain(int a, int b) {
-        SequencedBatches x = new SequencedBatches(3);
+        Counted x = new Counted(3);
         x.submit(0, Steps.SUM, a, b, 2);
         x.submit(0, Steps.SET, 1, 0, 900);
         Steps.closeAndDecide(x, 0);
@@ -356,7 +356,7 @@ public final class ExecutionTest {
     }
 
     private static int valueAfter(int[] row, int partitions) {
-        SequencedBatches x = new SequencedBatches(partitions);
+        Counted x = new Counted(partitions);
         x.submit(0, Steps.SET, 0, 0, row[4]);
         x.submit(0, Steps.SET, 1, 0, row[5]);
         x.submit(0, row[0], row[1], row[2], row[3]);
@@ -372,7 +372,7 @@ public final class ExecutionTest {
     }
 
     private static void wrongQueries() {
-        SequencedBatches x = new SequencedBatches(3);
+        Counted x = new Counted(3);
         int[][] wrong = {{-1, 0}, {2, 0}, {0, -1}, {0, 12}, {1, Integer.MAX_VALUE}, {Integer.MIN_VALUE, 0}};
         for (int[] w : wrong) {
             due.is("value" + w[0] + "," + w[1], x.value(w[0], w[1]), 0);

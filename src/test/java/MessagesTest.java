@@ -23,7 +23,7 @@ public final class MessagesTest {
     }
 
     private static void numbersOutsideTheList() {
-        SequencedBatches x = new SequencedBatches(2);
+        Counted x = new Counted(2);
         int[] outside = {Integer.MIN_VALUE, -1, 3, 4, 100, Integer.MAX_VALUE};
         x.close(0);
         for (int i : outside) {
@@ -36,7 +36,7 @@ public final class MessagesTest {
     }
 
     private static void anyMessageMayArrive() {
-        SequencedBatches x = new SequencedBatches(2);
+        Counted x = new Counted(2);
         x.close(0);
         due.is("deliver(1)", x.deliver(1), true);
         due.is("messages()", x.messages(), 3);
@@ -54,7 +54,7 @@ public final class MessagesTest {
     }
 
     private static void storeOnANodeThatIsDown() {
-        SequencedBatches x = new SequencedBatches(2);
+        Counted x = new Counted(2);
         x.close(0);
         x.crash(0);
         due.is("deliver(0)", x.deliver(0), true);
@@ -67,7 +67,7 @@ public final class MessagesTest {
     }
 
     private static void storeOfAnOldIncarnation() {
-        SequencedBatches x = new SequencedBatches(2);
+        Counted x = new Counted(2);
         x.close(0);
         x.crash(0);
         x.crash(Steps.SEQUENCER);
@@ -85,7 +85,7 @@ public final class MessagesTest {
     }
 
     private static void restartIsPromisedByEveryNodeThatIsUp() {
-        SequencedBatches x = new SequencedBatches(2);
+        Counted x = new Counted(2);
         x.close(0);
         x.close(1);
         x.crash(Steps.SEQUENCER);
@@ -99,7 +99,7 @@ public final class MessagesTest {
     }
 
     private static void storePromisesItsIncarnation() {
-        SequencedBatches x = new SequencedBatches(2);
+        Counted x = new Counted(2);
         x.close(0);
         x.crash(2);
         x.crash(Steps.SEQUENCER);
@@ -114,7 +114,7 @@ public final class MessagesTest {
     }
 
     private static void acksOfOneNodeCountOnce() {
-        SequencedBatches x = new SequencedBatches(2);
+        Counted x = new Counted(2);
         x.submit(0, Steps.SET, 0, 0, 1);
         x.close(0);
         x.resend(0, 0);
@@ -129,7 +129,7 @@ public final class MessagesTest {
     }
 
     private static void acksOfAnOldIncarnation() {
-        SequencedBatches x = new SequencedBatches(2);
+        Counted x = new Counted(2);
         x.submit(0, Steps.SET, 0, 0, 1);
         x.close(0);
         Steps.deliver(x, 3);
@@ -147,7 +147,7 @@ public final class MessagesTest {
     }
 
     private static void ackWhenTheSequencerIsDown() {
-        SequencedBatches x = new SequencedBatches(2);
+        Counted x = new Counted(2);
         x.submit(0, Steps.SET, 0, 0, 1);
         x.close(0);
         Steps.deliver(x, 3);
@@ -158,7 +158,7 @@ public final class MessagesTest {
     }
 
     private static void thirdAckDoesNothing() {
-        SequencedBatches x = new SequencedBatches(2);
+        Counted x = new Counted(2);
         x.close(0);
         Steps.deliver(x, 5);
         due.is("messages()", x.messages(), 3);
@@ -168,7 +168,7 @@ public final class MessagesTest {
     }
 
     private static void closedWhenTheReplicaIsDown() {
-        SequencedBatches x = new SequencedBatches(2);
+        Counted x = new Counted(2);
         x.submit(0, Steps.SET, 0, 0, 1);
         x.crash(Steps.REPLICA);
         Steps.closeAndDecide(x, 0);
@@ -184,7 +184,7 @@ public final class MessagesTest {
     }
 
     private static void dropLosesAnythingButValues() {
-        SequencedBatches x = new SequencedBatches(2);
+        Counted x = new Counted(2);
         x.submit(0, Steps.MOVE, 0, 1, 1);
         x.close(0);
         due.is("a STORE", x.drop(1), true);
@@ -207,7 +207,7 @@ public final class MessagesTest {
     }
 
     private static void arrivalsAreNeverRefused() {
-        SequencedBatches x = new SequencedBatches(2);
+        Counted x = new Counted(2);
         x.close(0);
         x.close(1);
         for (int i = 0; i < 15; i++) {
@@ -223,7 +223,7 @@ public final class MessagesTest {
     }
 
     private static void logGoesUpToTheFirstUnknownSlot() {
-        SequencedBatches x = new SequencedBatches(2);
+        Counted x = new Counted(2);
         x.submit(1, Steps.SET, 0, 0, 1);
         x.submit(0, Steps.SET, 0, 0, 2);
         x.submit(0, Steps.SET, 0, 0, 3);
@@ -251,7 +251,7 @@ public final class MessagesTest {
     }
 
     private static void logLeavesEmptySlotsOut() {
-        SequencedBatches x = new SequencedBatches(2);
+        Counted x = new Counted(2);
         x.submit(0, Steps.SET, 0, 0, 1);
         x.close(0);
         Steps.dropAll(x);
@@ -266,7 +266,7 @@ public final class MessagesTest {
     }
 
     private static void logOfAllFortySlots() {
-        SequencedBatches x = new SequencedBatches(1);
+        Counted x = new Counted(1);
         for (int e = 0; e < 20; e++) {
             x.submit(1, Steps.ADD, 0, 0, e);
             x.close(0);

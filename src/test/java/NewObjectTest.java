@@ -5,6 +5,7 @@ public final class NewObjectTest {
     public static void main(String[] args) {
         due.is("NONE", SequencedBatches.NONE, -1);
         numberOfPartitionsIsKeptWithinItsBounds();
+        numbersOutsideTheBoundsAreAsTheBounds();
         everythingIsUp();
         nothingIsThere();
         everyValueIsAHundred();
@@ -16,17 +17,35 @@ public final class NewObjectTest {
         int[] asked = {Integer.MIN_VALUE, -1, 0, 1, 2, 3, 4, 5, Integer.MAX_VALUE};
         int[] made = {1, 1, 1, 1, 2, 3, 4, 4, 4};
         for (int i = 0; i < asked.length; i++) {
-            SequencedBatches x = new SequencedBatches(asked[i]);
+            Counted x = new Counted(asked[i]);
             for (int p = -1; p <= 5; p++) {
                 int want = p >= 0 && p < made[i] ? 0 : -1;
                 due.is("admitted(0, " + p + ") of " + asked[i], x.admitted(0, p), want);
+                due.is("finished(0, " + p + ") of " + asked[i], x.finished(0, p), want);
                 due.is("ready(1, " + p + ") of " + asked[i], x.ready(1, p), want);
             }
         }
     }
 
+    // "(1 if it is less than 1, 4 if it is more than 4)": keys belong to partitions as if that had been asked
+    private static void numbersOutsideTheBoundsAreAsTheBounds() {
+        int[] asked = {Integer.MIN_VALUE, -1, 0, 1, 4, 5, 6, Integer.MAX_VALUE};
+        int[] partitionOfKey5 = {0, 0, 0, 0, 1, 1, 1, 1};
+        for (int i = 0; i < asked.length; i++) {
+            Counted x = new Counted(asked[i]);
+            x.submit(0, Steps.ADD, 5, 0, 1);
+            Steps.closeAndDecide(x, 0);
+            Steps.admitInAll(x, 0, 4, 1);
+            due.is("the partition of key 5 of " + asked[i], x.look(0, partitionOfKey5[i], 0), 0);
+            due.is("value(0, 5) of " + asked[i], x.value(0, 5), 101);
+            due.is("partition 1 of " + asked[i], x.admitted(0, 1), partitionOfKey5[i] == 0 ? -1 : 1);
+            due.is("partition 3 of " + asked[i], x.admitted(0, 3), partitionOfKey5[i] == 0 ? -1 : 1);
+            due.is("partition 4 of " + asked[i], x.admitted(0, 4), -1);
+        }
+    }
+
     private static void everythingIsUp() {
-        SequencedBatches x = new SequencedBatches(2);
+        Counted x = new Counted(2);
         for (int node = 0; node <= 6; node++) {
             due.is("restart(" + node + ")", x.restart(node), false);
         }
@@ -36,7 +55,7 @@ public final class NewObjectTest {
     }
 
     private static void nothingIsThere() {
-        SequencedBatches x = new SequencedBatches(3);
+        Counted x = new Counted(3);
         due.is("messages()", x.messages(), 0);
         due.is("message(0)", x.message(0), -1);
         due.is("status(0)", x.status(0), -1);
@@ -51,7 +70,7 @@ public final class NewObjectTest {
     }
 
     private static void everyValueIsAHundred() {
-        SequencedBatches x = new SequencedBatches(3);
+        Counted x = new Counted(3);
         for (int k = 0; k < 12; k++) {
             due.is("value(0, " + k + ")", x.value(0, k), 100);
             due.is("value(1, " + k + ")", x.value(1, k), 100);
@@ -60,8 +79,8 @@ public final class NewObjectTest {
     }
 
     private static void objectsShareNothing() {
-        SequencedBatches x = new SequencedBatches(1);
-        SequencedBatches y = new SequencedBatches(1);
+        Counted x = new Counted(1);
+        Counted y = new Counted(1);
         x.submit(0, Steps.SET, 0, 0, 5);
         x.close(0);
         x.crash(0);

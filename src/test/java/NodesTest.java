@@ -22,7 +22,7 @@ public final class NodesTest {
     }
 
     private static void everyNodeGoesDownAndComesUp() {
-        SequencedBatches x = new SequencedBatches(2);
+        Counted x = new Counted(2);
         for (int node = 0; node <= 6; node++) {
             due.is("restart of " + node + " that is up", x.restart(node), false);
             due.is("crash of " + node, x.crash(node), true);
@@ -33,7 +33,7 @@ public final class NodesTest {
     }
 
     private static void nodesThatAreNotThere() {
-        SequencedBatches x = new SequencedBatches(2);
+        Counted x = new Counted(2);
         int[] none = {Integer.MIN_VALUE, -1, 7, 8, Integer.MAX_VALUE};
         for (int node : none) {
             due.is("crash(" + node + ")", x.crash(node), false);
@@ -42,7 +42,7 @@ public final class NodesTest {
     }
 
     private static void sequencerNeedsTwoLogNodes() {
-        SequencedBatches x = new SequencedBatches(2);
+        Counted x = new Counted(2);
         x.crash(4);
         x.crash(0);
         x.crash(1);
@@ -60,7 +60,7 @@ public final class NodesTest {
     }
 
     private static void sequencerIsRefusedWhenCrowded() {
-        SequencedBatches x = new SequencedBatches(2);
+        Counted x = new Counted(2);
         x.crash(4);
         Steps.crowd(x, 0);
         due.is("messages()", x.messages(), 51);
@@ -72,7 +72,7 @@ public final class NodesTest {
     }
 
     private static void otherNodesComeUpWhenCrowded() {
-        SequencedBatches x = new SequencedBatches(2);
+        Counted x = new Counted(2);
         x.crash(2);
         x.crash(6);
         Steps.crowd(x, 0);
@@ -84,7 +84,7 @@ public final class NodesTest {
     }
 
     private static void sequencerProposesWhatIsStored() {
-        SequencedBatches x = new SequencedBatches(2);
+        Counted x = new Counted(2);
         x.submit(0, Steps.SET, 0, 0, 1);
         x.close(0);
         x.close(0);
@@ -99,7 +99,7 @@ public final class NodesTest {
     }
 
     private static void sequencerBelievesTheGreatestIncarnation() {
-        SequencedBatches x = new SequencedBatches(2);
+        Counted x = new Counted(2);
         x.submit(0, Steps.SET, 0, 0, 1);
         x.close(0);
         x.deliver(0);
@@ -130,7 +130,7 @@ public final class NodesTest {
     }
 
     private static void sequencerDoesNotSeeNodesThatAreDown() {
-        SequencedBatches x = new SequencedBatches(2);
+        Counted x = new Counted(2);
         x.submit(1, Steps.SET, 0, 0, 1);
         x.close(1);
         x.deliver(0);
@@ -145,7 +145,7 @@ public final class NodesTest {
     }
 
     private static void sequencerSendsInOrderOfEpochs() {
-        SequencedBatches x = new SequencedBatches(2);
+        Counted x = new Counted(2);
         x.close(0);
         x.close(0);
         x.close(0);
@@ -165,7 +165,7 @@ public final class NodesTest {
     }
 
     private static void batchIsEmptyAfterARestart() {
-        SequencedBatches x = new SequencedBatches(1);
+        Counted x = new Counted(1);
         x.submit(0, Steps.SET, 0, 0, 1);
         x.crash(Steps.SEQUENCER);
         x.restart(Steps.SEQUENCER);
@@ -179,7 +179,7 @@ public final class NodesTest {
     }
 
     private static void replicaLosesItsValuesUnderWay() {
-        SequencedBatches x = new SequencedBatches(2);
+        Counted x = new Counted(2);
         x.submit(0, Steps.MOVE, 0, 1, 1);
         Steps.closeAndDecide(x, 0);
         x.admit(0, 0);
@@ -199,7 +199,7 @@ public final class NodesTest {
     }
 
     private static void messagesThatStayKeepTheirIncarnation() {
-        SequencedBatches x = new SequencedBatches(2);
+        Counted x = new Counted(2);
         x.submit(0, Steps.MOVE, 0, 1, 1);
         Steps.closeAndDecide(x, 0);
         x.crash(4);
@@ -216,7 +216,7 @@ public final class NodesTest {
     }
 
     private static void replicaBeginsFromItsFirstCheckpoint() {
-        SequencedBatches x = new SequencedBatches(1);
+        Counted x = new Counted(1);
         x.submit(0, Steps.SET, 0, 0, 7);
         Steps.closeAndDecide(x, 0);
         x.admit(1, 0);
@@ -232,7 +232,7 @@ public final class NodesTest {
     }
 
     private static void replicaBeginsFromItsCheckpoint() {
-        SequencedBatches x = new SequencedBatches(2);
+        Counted x = new Counted(2);
         x.submit(0, Steps.SET, 0, 0, 7);
         x.submit(0, Steps.SET, 2, 0, 8);
         Steps.closeAndDecide(x, 0);
@@ -254,7 +254,7 @@ public final class NodesTest {
     }
 
     private static void valuesReceivedAreGone() {
-        SequencedBatches x = new SequencedBatches(2);
+        Counted x = new Counted(2);
         x.submit(0, Steps.MOVE, 0, 1, 1);
         Steps.closeAndDecide(x, 0);
         x.admit(0, 0);

@@ -19,7 +19,7 @@ public final class SlotTest {
     }
 
     private static void closeSendsToEveryLogNode() {
-        SequencedBatches x = new SequencedBatches(2);
+        Counted x = new Counted(2);
         x.submit(1, Steps.SET, 0, 0, 1);
         due.is("close(1)", x.close(1), 0);
         due.is("an empty batch", x.close(1), 1);
@@ -32,7 +32,7 @@ public final class SlotTest {
     }
 
     private static void closeIsRefused() {
-        SequencedBatches x = new SequencedBatches(2);
+        Counted x = new Counted(2);
         due.is("close(-1)", x.close(-1), -1);
         due.is("close(2)", x.close(2), -1);
         due.is("close(MIN)", x.close(Integer.MIN_VALUE), -1);
@@ -54,7 +54,7 @@ public final class SlotTest {
     }
 
     private static void closeIsRefusedWhenCrowded() {
-        SequencedBatches x = new SequencedBatches(2);
+        Counted x = new Counted(2);
         x.close(0);
         for (int i = 0; i < 15; i++) {
             x.resend(0, 0);
@@ -71,7 +71,7 @@ public final class SlotTest {
     }
 
     private static void twentySlotsAreTheMost() {
-        SequencedBatches x = new SequencedBatches(1);
+        Counted x = new Counted(1);
         for (int e = 0; e < 20; e++) {
             due.is("close", x.close(0), e);
             Steps.deliver(x, 8);
@@ -87,7 +87,7 @@ public final class SlotTest {
     }
 
     private static void resendOfAnUndecidedSlot() {
-        SequencedBatches x = new SequencedBatches(2);
+        Counted x = new Counted(2);
         x.close(0);
         due.is("none has acknowledged", x.resend(0, 0), 3);
         due.is("message(3)", x.message(3), 1000000);
@@ -105,7 +105,7 @@ public final class SlotTest {
     }
 
     private static void resendOfADecidedSlot() {
-        SequencedBatches x = new SequencedBatches(2);
+        Counted x = new Counted(2);
         Steps.closeAndDecide(x, 1);
         due.is("decided", x.resend(1, 0), 2);
         due.is("message(0)", x.message(0), 3100000);
@@ -124,7 +124,7 @@ public final class SlotTest {
     }
 
     private static void resendIsRefused() {
-        SequencedBatches x = new SequencedBatches(2);
+        Counted x = new Counted(2);
         x.close(0);
         due.is("resend(-1, 0)", x.resend(-1, 0), -1);
         due.is("resend(2, 0)", x.resend(2, 0), -1);
@@ -139,7 +139,7 @@ public final class SlotTest {
     }
 
     private static void resendIsRefusedWhenCrowded() {
-        SequencedBatches x = new SequencedBatches(2);
+        Counted x = new Counted(2);
         Steps.closeAndDecide(x, 0);
         for (int i = 0; i < 24; i++) {
             due.is("resend", x.resend(0, 0), 2);
@@ -152,7 +152,7 @@ public final class SlotTest {
     }
 
     private static void statusFollowsTheSlot() {
-        SequencedBatches x = new SequencedBatches(2);
+        Counted x = new Counted(2);
         x.submit(0, Steps.SET, 0, 0, 1);
         due.is("open", x.status(0), 0);
         x.close(0);
@@ -168,7 +168,7 @@ public final class SlotTest {
     }
 
     private static void statusOfACrashedBatch() {
-        SequencedBatches x = new SequencedBatches(2);
+        Counted x = new Counted(2);
         x.submit(0, Steps.SET, 0, 0, 1);
         x.close(0);
         x.submit(0, Steps.SET, 0, 0, 2);
@@ -189,7 +189,7 @@ public final class SlotTest {
     }
 
     private static void storedTellsIncarnationAndEmptiness() {
-        SequencedBatches x = new SequencedBatches(2);
+        Counted x = new Counted(2);
         x.close(1);
         due.is("nothing yet", x.stored(0, 1, 0), 0);
         x.deliver(1);
@@ -211,7 +211,7 @@ public final class SlotTest {
     }
 
     private static void storedOfNothing() {
-        SequencedBatches x = new SequencedBatches(2);
+        Counted x = new Counted(2);
         x.close(0);
         due.is("stored(-1, 0, 0)", x.stored(-1, 0, 0), -1);
         due.is("stored(3, 0, 0)", x.stored(3, 0, 0), -1);

@@ -15,48 +15,61 @@ final class Steps {
     private Steps() {
     }
 
-    static void deliver(SequencedBatches x, int times) {
+    /** Submits transactions that add 1 to the key. */
+    static void submitAdds(Counted x, int s, int key, int times) {
+        for (int i = 0; i < times; i++) {
+            x.submit(s, ADD, key, 0, 1);
+        }
+    }
+
+    static void deliver(Counted x, int times) {
         for (int i = 0; i < times; i++) {
             x.deliver(0);
         }
     }
 
-    static void deliverAll(SequencedBatches x) {
+    static void deliverAt(Counted x, int i, int times) {
+        for (int j = 0; j < times; j++) {
+            x.deliver(i);
+        }
+    }
+
+    static void deliverAll(Counted x) {
         for (int i = 0; i < 400 && x.deliver(0); i++) {
         }
     }
 
-    static void drop(SequencedBatches x, int times) {
+    static void drop(Counted x, int times) {
         for (int i = 0; i < times; i++) {
             x.drop(0);
         }
     }
 
-    static void dropAll(SequencedBatches x) {
+    static void dropAll(Counted x) {
         for (int i = 0; i < 400 && x.drop(0); i++) {
         }
     }
 
     /** Sequencer s closes its batch, and every replica that is up learns of it. */
-    static void closeAndDecide(SequencedBatches x, int s) {
+    static void closeAndDecide(Counted x, int s) {
         x.close(s);
         deliverAll(x);
     }
 
-    static void admit(SequencedBatches x, int r, int p, int times) {
+    static void admit(Counted x, int r, int p, int times) {
         for (int i = 0; i < times; i++) {
             x.admit(r, p);
         }
     }
 
-    static void admitInAll(SequencedBatches x, int r, int partitions, int times) {
+    static void admitInAll(Counted x, int r, int partitions, int times) {
         for (int p = 0; p < partitions; p++) {
             admit(x, r, p, times);
         }
     }
 
     /** Sends until more than 48 messages are under way: 51, all of them STOREs of slot (0, s). */
-    static void crowd(SequencedBatches x, int s) {
+    static void crowd(Counted x, int s) {
         x.close(s);
         for (int i = 0; i < 16; i++) {
             x.resend(s, 0);
@@ -64,7 +77,7 @@ final class Steps {
     }
 
     /** Resends the decided slot (0, 0) until just 49 or 50 messages are under way. */
-    static void crowdWithClosed(SequencedBatches x) {
+    static void crowdWithClosed(Counted x) {
         for (int i = 0; i < 30 && x.resend(0, 0) != NONE; i++) {
         }
     }

@@ -14,7 +14,7 @@ public final class SubmitTest {
     }
 
     private static void numbersGoUpOverBothSequencers() {
-        SequencedBatches x = new SequencedBatches(2);
+        Counted x = new Counted(2);
         due.is("first", x.submit(1, Steps.SET, 0, 0, 1), 0);
         due.is("second", x.submit(0, Steps.SET, 0, 0, 2), 1);
         due.is("third", x.submit(1, Steps.ADD, 0, 0, 3), 2);
@@ -38,7 +38,7 @@ public final class SubmitTest {
     };
 
     private static void wrongInputsAreRefused() {
-        SequencedBatches x = new SequencedBatches(4);
+        Counted x = new Counted(4);
         for (int[] w : WRONG) {
             due.is("submit" + java.util.Arrays.toString(w), x.submit(w[0], w[1], w[2], w[3], w[4]), -1);
         }
@@ -53,7 +53,7 @@ public final class SubmitTest {
     };
 
     private static void edgesOfInputsAreTaken() {
-        SequencedBatches x = new SequencedBatches(4);
+        Counted x = new Counted(4);
         for (int i = 0; i < RIGHT.length; i++) {
             int[] w = RIGHT[i];
             due.is("submit" + java.util.Arrays.toString(w), x.submit(w[0], w[1], w[2], w[3], w[4]), i);
@@ -61,7 +61,7 @@ public final class SubmitTest {
     }
 
     private static void refusedCallsChangeNothing() {
-        SequencedBatches x = new SequencedBatches(2);
+        Counted x = new Counted(2);
         x.submit(0, Steps.SET, 0, 0, 1);
         for (int[] w : WRONG) {
             x.submit(w[0], w[1], w[2], w[3], w[4]);
@@ -76,7 +76,7 @@ public final class SubmitTest {
     }
 
     private static void batchTakesSix() {
-        SequencedBatches x = new SequencedBatches(2);
+        Counted x = new Counted(2);
         for (int i = 0; i < 6; i++) {
             due.is("submit " + i, x.submit(1, Steps.ADD, i, 0, 1), i);
         }
@@ -88,7 +88,7 @@ public final class SubmitTest {
     }
 
     private static void downSequencerRefuses() {
-        SequencedBatches x = new SequencedBatches(2);
+        Counted x = new Counted(2);
         x.crash(Steps.SEQUENCER);
         due.is("down", x.submit(0, Steps.SET, 0, 0, 1), -1);
         due.is("the other", x.submit(1, Steps.SET, 0, 0, 1), 0);
@@ -97,7 +97,7 @@ public final class SubmitTest {
     }
 
     private static void thereAreAtMostAHundred() {
-        SequencedBatches x = new SequencedBatches(1);
+        Counted x = new Counted(1);
         int number = 0;
         // A crash takes a batch away without a slot; its transactions count all the same.
         for (int round = 0; round < 16; round++) {
