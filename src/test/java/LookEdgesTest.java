@@ -19,6 +19,8 @@ public final class LookEdgesTest {
         valuesBeforeAndAfterTheLook();
         valuesBeforeAdmission();
         valuesAreOfOneTransaction();
+        valuesAreThoseOfTheLook(0, 1);
+        valuesAreThoseOfTheLook(1, 0);
         due.end();
     }
 
@@ -238,5 +240,24 @@ public final class LookEdgesTest {
         due.is("the second has", x.locks(0, 3), 0);
         x.deliver(0);
         due.is("finished(0, 1)", x.finished(0, 1), 2);
+    }
+
+    // "Looking, it takes the values of the keys of that partition that it reads"
+    private static void valuesAreThoseOfTheLook(int a, int b) {
+        Counted x = new Counted(3);
+        x.submit(0, Steps.SUM, a, b, 2);
+        x.submit(0, Steps.SET, 0, 0, 700);
+        x.submit(0, Steps.SET, 1, 0, 900);
+        Steps.closeAndDecide(x, 0);
+        Steps.admitInAll(x, 0, 3, 3);
+        due.is("key 1 is read", x.look(0, 1, 0), 0);
+        due.is("key 1 is written then", x.look(0, 1, 0), 2);
+        due.is("key 0 is read", x.look(0, 0, 0), 0);
+        due.is("key 0 is written then", x.look(0, 0, 0), 1);
+        x.look(0, 2, 0);
+        Steps.deliverAll(x);
+        due.is("the sum of what was read", x.value(0, 2), 200);
+        due.is("value(0, 0)", x.value(0, 0), 700);
+        due.is("value(0, 1)", x.value(0, 1), 900);
     }
 }

@@ -30,6 +30,7 @@ public final class NodeEdgesTest {
         slotsOfTheOtherAreLeftAlone();
         replicaCrashWithValuesUnderWay();
         replicaCrashWithoutValuesUnderWay();
+        messagesThatStayKeepTheirIncarnation();
         replicaCrashWithValuesReceived();
         replicaKeepsWhatItKnows();
         replicaBeginsBehindItsCheckpoint();
@@ -438,6 +439,30 @@ public final class NodeEdgesTest {
         messagesAre("without VALUES", x, 1000000, 1000010, 1000020);
         Counted y = crashed(Scenes.fresh(), 6);
         due.is("with no messages", y.messages(), 0);
+    }
+
+    /** A VALUES of replica 0, then STOREs of incarnation 1 and of incarnation 2. */
+    private static Counted valuesBeforeStores() {
+        Counted x = new Counted(2);
+        x.submit(0, Steps.MOVE, 0, 1, 30);
+        Steps.closeAndDecide(x, 0);
+        x.admit(0, 0);
+        x.look(0, 0, 0);
+        restarted(crashed(x, SEQUENCER_1), SEQUENCER_1);
+        x.close(0);
+        x.close(1);
+        return x;
+    }
+
+    private static void messagesThatStayKeepTheirIncarnation() {
+        Counted x = crashed(valuesBeforeStores(), 5);
+        Steps.deliver(x, 6);
+        for (int l = 0; l < 3; l++) {
+            due.is("incarnation 1 on " + l, x.stored(l, 0, 1), 2);
+            due.is("incarnation 2 on " + l, x.stored(l, 1, 0), 4);
+        }
+        Steps.deliverAll(x);
+        due.is("its slot is decided", x.resend(1, 0), 2);
     }
 
     // "its values, what is admitted, locks, values received .. are gone"

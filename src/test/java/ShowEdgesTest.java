@@ -19,6 +19,7 @@ public final class ShowEdgesTest {
         loggedOfNoPlace();
         loggedOfAReplicaThatIsDown();
         loggedUpToTheFirstUnknownSlot();
+        loggedOfSlotsWithoutTransactions();
         loggedOfAllFortySlots();
         countsOfNoReplicaOrPartition();
         countsOfAReplicaThatIsDown();
@@ -175,6 +176,25 @@ public final class ShowEdgesTest {
             due.is("logged(0, 3) with all slots", x.logged(0, 3), 3);
             due.is("logged(0, 4) with all slots", x.logged(0, 4), -1);
         }
+    }
+
+    // "as decided": slot (0, 0) is decided as empty, (0, 1) has no transactions, (1, 0) is decided as original
+    private static void loggedOfSlotsWithoutTransactions() {
+        Counted x = new Counted(2);
+        x.submit(0, Steps.ADD, 0, 0, 1);
+        x.close(0);
+        Steps.dropAll(x);
+        x.crash(Steps.SEQUENCER);
+        x.restart(Steps.SEQUENCER);
+        Steps.deliverAll(x);
+        due.is("behind a slot decided as empty", x.logged(0, 0), -1);
+        x.submit(0, Steps.ADD, 0, 0, 1);
+        Steps.closeAndDecide(x, 0);
+        due.is("slot (0, 1) is not known", x.logged(0, 0), -1);
+        Steps.closeAndDecide(x, 1);
+        due.is("the first of the log", x.logged(0, 0), 1);
+        due.is("none behind it", x.logged(0, 1), -1);
+        due.is("it is admitted first", x.admit(1, 0), 1);
     }
 
     private static void loggedOfAllFortySlots() {
