@@ -11,6 +11,7 @@ public final class AdmissionEdgesTest {
         admitWithNoMoreInTheLog();
         admitWithAnEmptyLog();
         tenMayBeUnfinished();
+        tenStopOneInWhichItTakesNoPart();
         tenAreCountedForEachPartition();
         thoseThatHaveLookedAreCounted();
         thoseThatAreFinishedAreNotCounted();
@@ -103,6 +104,28 @@ public final class AdmissionEdgesTest {
         due.is("with eight", Scenes.unfinished(8).admit(0, 0), 8);
         due.is("with nine", Scenes.unfinished(9).admit(0, 0), 9);
         twins.none("with ten", () -> Scenes.unfinished(10), x -> x.admit(0, 0));
+    }
+
+    // The same when it is one in which the partition takes no part
+    private static void tenStopOneInWhichItTakesNoPart() {
+        due.is("with nine", tenAndOneElsewhere(9).admit(0, 0), 9);
+        twins.none("one that takes no part, with ten", () -> tenAndOneElsewhere(10), x -> x.admit(0, 0));
+        Counted x = tenAndOneElsewhere(10);
+        x.look(0, 0, 0);
+        due.is("one that takes no part, with nine", x.admit(0, 0), 10);
+        due.is("finished(0, 0)", x.finished(0, 0), 2);
+    }
+
+    /** The log is ten ADDs of key 0 and one of key 1; partition 0 of replica 0 has admitted so many. */
+    private static Counted tenAndOneElsewhere(int count) {
+        Counted x = new Counted(2);
+        Steps.submitAdds(x, 0, 0, 6);
+        Steps.submitAdds(x, 1, 0, 4);
+        Steps.submitAdds(x, 1, 1, 1);
+        Steps.closeAndDecide(x, 0);
+        Steps.closeAndDecide(x, 1);
+        Steps.admit(x, 0, 0, count);
+        return x;
     }
 
     private static void tenAreCountedForEachPartition() {

@@ -12,6 +12,7 @@ public final class LookEdgesTest {
         replicaThatIsDown();
         lookWithFortyEightUnderWay();
         lookThatSendsNothingWithFortyEightUnderWay();
+        lookInTheOnlyPartitionWithFortyEightUnderWay();
         oneThatHasLookedIsNotReady();
         valuesGoToActivePartitions();
         whoIsNotActiveHasThenFinished();
@@ -100,6 +101,21 @@ public final class LookEdgesTest {
             int many = messages;
             twins.none("look that sends nothing with " + many, () -> Scenes.underWay(many), x -> x.look(0, 0, 1));
         }
+    }
+
+    private static void lookInTheOnlyPartitionWithFortyEightUnderWay() {
+        due.is("look with 48", onePartition(48).look(0, 0, 0), 0);
+        twins.none("look in the only partition with 49", () -> onePartition(49), x -> x.look(0, 0, 0));
+    }
+
+    /** No transaction has another partition to send to; so many messages, 47 to 50, are under way. */
+    private static Counted onePartition(int messages) {
+        Counted x = new Counted(1);
+        x.submit(0, Steps.SWAP, 0, 1, 0);
+        Steps.closeAndDecide(x, 0);
+        x.admit(0, 0);
+        Scenes.fill(x, messages);
+        return x;
     }
 
     // READY when "it has not LOOKED there"

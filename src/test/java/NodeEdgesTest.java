@@ -184,6 +184,17 @@ public final class NodeEdgesTest {
             twins.isFalse("restart that sends nothing with " + many,
                     () -> crashed(Scenes.underWay(many), Steps.SEQUENCER), x -> x.restart(Steps.SEQUENCER));
         }
+        twins.isFalse("restart without slots with 49", () -> crashed(manyOfTheOther(), SEQUENCER_1),
+                x -> x.restart(SEQUENCER_1));
+    }
+
+    /** 49 messages are under way; sequencer 1 has no slots. */
+    private static Counted manyOfTheOther() {
+        Counted x = new Counted(2);
+        Steps.closeAndDecide(x, 0);
+        Scenes.fill(x, 49);
+        due.is("messages()", x.messages(), 49);
+        return x;
     }
 
     private static void otherNodesWithManyUnderWay() {
